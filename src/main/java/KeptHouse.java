@@ -123,14 +123,15 @@ public final class KeptHouse {
 
     // ---- the plan
 
-    public int take(int desk) {
+    public int take(int desk) throws IllegalArgumentException, IllegalStateException {
         mustBeUp();
         mustBeIn(desk, 0, DESKS - 1);
         plan.bring(desk);
         return plan.version;
     }
 
-    public int edit(int desk, int storey, int e, int n, int step, int kind) {
+    public int edit(int desk, int storey, int e, int n, int step, int kind)
+            throws IllegalArgumentException, IllegalStateException {
         mustBeUp();
         mustBeIn(desk, 0, DESKS - 1);
         mustBeIn(storey, 0, STOREYS - 1);
@@ -148,7 +149,7 @@ public final class KeptHouse {
         return changed;
     }
 
-    public int merge(int desk) {
+    public int merge(int desk) throws IllegalArgumentException, IllegalStateException {
         mustBeUp();
         mustBeIn(desk, 0, DESKS - 1);
         int conflicts = plan.countConflicts(desk);
@@ -168,7 +169,7 @@ public final class KeptHouse {
         return keeper.writeGroup() ? plan.version : CUT;
     }
 
-    public int conflict(int desk, int k) {
+    public int conflict(int desk, int k) throws IllegalArgumentException, IllegalStateException {
         mustBeUp();
         mustBeIn(desk, 0, DESKS - 1);
         mustBeIn(k, 0, Integer.MAX_VALUE);
@@ -176,7 +177,7 @@ public final class KeptHouse {
         return i == NONE ? NONE : 128 * (i / EDGES) + i % EDGES;
     }
 
-    public int settle(int desk, int k, boolean mine) {
+    public int settle(int desk, int k, boolean mine) throws IllegalArgumentException, IllegalStateException {
         mustBeUp();
         mustBeIn(desk, 0, DESKS - 1);
         mustBeIn(k, 0, Integer.MAX_VALUE);
@@ -188,14 +189,14 @@ public final class KeptHouse {
         return plan.countConflicts(desk);
     }
 
-    public int edge(int storey, int e) {
+    public int edge(int storey, int e) throws IllegalArgumentException, IllegalStateException {
         mustBeUp();
         mustBeIn(storey, 0, STOREYS - 1);
         mustBeIn(e, 0, EDGES - 1);
         return plan.edges[storey * EDGES + e];
     }
 
-    public int draft(int desk, int storey, int e) {
+    public int draft(int desk, int storey, int e) throws IllegalArgumentException, IllegalStateException {
         mustBeUp();
         mustBeIn(desk, 0, DESKS - 1);
         mustBeIn(storey, 0, STOREYS - 1);
@@ -203,31 +204,31 @@ public final class KeptHouse {
         return plan.drafts[desk][storey * EDGES + e];
     }
 
-    public int version() {
+    public int version() throws IllegalStateException {
         mustBeUp();
         return plan.version;
     }
 
-    public int spaces() {
+    public int spaces() throws IllegalStateException {
         mustBeUp();
         return plan.count;
     }
 
-    public int space(int k, int what) {
+    public int space(int k, int what) throws IllegalArgumentException, IllegalStateException {
         mustBeUp();
         mustBeIn(k, 0, plan.count - 1);
         mustBeIn(what, 0, 6);
         return what == 6 ? (int) climate.warmthOf(plan, k) : plan.facts[what][k];
     }
 
-    public int spaceAt(int storey, int cell) {
+    public int spaceAt(int storey, int cell) throws IllegalArgumentException, IllegalStateException {
         mustBeUp();
         mustBeIn(storey, 0, STOREYS - 1);
         mustBeIn(cell, 0, CELLS - 1);
         return plan.of[storey * CELLS + cell];
     }
 
-    public int between(int a, int b, int kind) {
+    public int between(int a, int b, int kind) throws IllegalArgumentException, IllegalStateException {
         mustBeUp();
         mustBeIn(a, 0, plan.count - 1);
         mustBeIn(b, 0, plan.count - 1);
@@ -240,7 +241,7 @@ public final class KeptHouse {
 
     // ---- what is told
 
-    public int flat(int storey, int cell, int flat) {
+    public int flat(int storey, int cell, int flat) throws IllegalArgumentException, IllegalStateException {
         mustBeUp();
         mustBeIn(storey, 0, STOREYS - 1);
         mustBeIn(cell, 0, CELLS - 1);
@@ -252,7 +253,7 @@ public final class KeptHouse {
         return keep(2, storey, before);
     }
 
-    public int people(int flat, int hour, int n) {
+    public int people(int flat, int hour, int n) throws IllegalArgumentException, IllegalStateException {
         mustBeUp();
         mustBeIn(flat, 0, FLATS - 1);
         mustBeIn(hour, 0, HOURS - 1);
@@ -263,7 +264,7 @@ public final class KeptHouse {
         return keep(3, flat, before);
     }
 
-    public int weather(int hour, int v) {
+    public int weather(int hour, int v) throws IllegalArgumentException, IllegalStateException {
         mustBeUp();
         mustBeIn(hour, 0, HOURS - 1);
         mustBeIn(v, Climate.COLDEST, Climate.HOTTEST);
@@ -272,7 +273,7 @@ public final class KeptHouse {
         return keep(4, hour / 12, before);
     }
 
-    public int sun(int side, int hour, int v) {
+    public int sun(int side, int hour, int v) throws IllegalArgumentException, IllegalStateException {
         mustBeUp();
         mustBeIn(side, 0, 3);
         mustBeIn(hour, 0, HOURS - 1);
@@ -283,7 +284,7 @@ public final class KeptHouse {
         return keep(5, side, before);
     }
 
-    public int rate(int circuit, int rating, int rank) {
+    public int rate(int circuit, int rating, int rank) throws IllegalArgumentException, IllegalStateException {
         mustBeUp();
         mustBeIn(circuit, 0, CIRCUITS - 1);
         mustBeIn(rating, 1, Supply.MOST_RATING);
@@ -297,7 +298,7 @@ public final class KeptHouse {
         return keeper.writeGroup() ? before : CUT;
     }
 
-    public int price(int what, int v) {
+    public int price(int what, int v) throws IllegalArgumentException, IllegalStateException {
         mustBeUp();
         mustBeIn(what, 0, 3);
         mustBeIn(v, 0, Books.mostOf(what));
@@ -306,7 +307,7 @@ public final class KeptHouse {
         return keep(10, 0, before);
     }
 
-    public int life(int part, int minutes) {
+    public int life(int part, int minutes) throws IllegalArgumentException, IllegalStateException {
         mustBeUp();
         mustBeIn(part, 0, PARTS - 1);
         mustBeIn(minutes, 1, Care.LONGEST_LIFE);
@@ -317,7 +318,7 @@ public final class KeptHouse {
 
     // ---- the program
 
-    public int type(int c) {
+    public int type(int c) throws IllegalArgumentException, IllegalStateException {
         mustBeUp();
         mustBeIn(c, Program.FIRST_CODE, Program.LAST_CODE);
         mustAllow(program.typedLength < Program.LONGEST);
@@ -326,14 +327,14 @@ public final class KeptHouse {
         return program.typedLength;
     }
 
-    public int wipe() {
+    public int wipe() throws IllegalStateException {
         mustBeUp();
         int had = program.typedLength;
         program.typedLength = 0;
         return had;
     }
 
-    public int load() {
+    public int load() throws IllegalStateException {
         mustBeUp();
         if (!program.tryTyped()) {
             return WRONG;
@@ -345,13 +346,13 @@ public final class KeptHouse {
         return keeper.writeGroup() ? program.live.statements : CUT;
     }
 
-    public int fault(int what) {
+    public int fault(int what) throws IllegalArgumentException, IllegalStateException {
         mustBeUp();
         mustBeIn(what, 0, 1);
         return what == 0 ? program.wrongFault : program.wrongPlace;
     }
 
-    public int target(int k) {
+    public int target(int k) throws IllegalArgumentException, IllegalStateException {
         mustBeUp();
         mustBeIn(k, 0, TARGETS - 1);
         return values[k];
@@ -359,7 +360,7 @@ public final class KeptHouse {
 
     // ---- minutes
 
-    public int run(int n) {
+    public int run(int n) throws IllegalArgumentException, IllegalStateException {
         mustBeUp();
         mustBeIn(n, 1, 120);
         mustAllow(books.time + n <= LAST_TIME);
@@ -371,21 +372,21 @@ public final class KeptHouse {
         return books.time;
     }
 
-    public boolean mains(boolean on) {
+    public boolean mains(boolean on) throws IllegalStateException {
         mustBeUp();
         boolean before = supply.mains;
         supply.mains = on;
         return before;
     }
 
-    public int fuel(int n) {
+    public int fuel(int n) throws IllegalArgumentException, IllegalStateException {
         mustBeUp();
         mustBeIn(n, 0, Supply.MOST_FUEL);
         supply.fuel = Math.min(Supply.MOST_FUEL, supply.fuel + n);
         return supply.fuel;
     }
 
-    public boolean reset(int circuit) {
+    public boolean reset(int circuit) throws IllegalArgumentException, IllegalStateException {
         mustBeUp();
         mustBeIn(circuit, 0, CIRCUITS - 1);
         if (supply.circuits[Supply.TRIPPED][circuit] == 0) {
@@ -396,14 +397,14 @@ public final class KeptHouse {
         return true;
     }
 
-    public int circuit(int circuit, int what) {
+    public int circuit(int circuit, int what) throws IllegalArgumentException, IllegalStateException {
         mustBeUp();
         mustBeIn(circuit, 0, CIRCUITS - 1);
         mustBeIn(what, 0, Supply.RANK);
         return supply.circuits[what][circuit];
     }
 
-    public int state(int what) {
+    public int state(int what) throws IllegalArgumentException, IllegalStateException {
         mustBeUp();
         mustBeIn(what, 0, 10);
         switch (what) {
@@ -432,7 +433,7 @@ public final class KeptHouse {
         }
     }
 
-    public long cell(int storey, int cell, int what) {
+    public long cell(int storey, int cell, int what) throws IllegalArgumentException, IllegalStateException {
         mustBeUp();
         mustBeIn(storey, 0, STOREYS - 1);
         mustBeIn(cell, 0, CELLS - 1);
@@ -454,25 +455,25 @@ public final class KeptHouse {
         }
     }
 
-    public boolean ignite(int storey, int cell) {
+    public boolean ignite(int storey, int cell) throws IllegalArgumentException, IllegalStateException {
         mustBeUp();
         mustBeIn(storey, 0, STOREYS - 1);
         mustBeIn(cell, 0, CELLS - 1);
         return climate.lightCell(storey * CELLS + cell);
     }
 
-    public boolean detected(int space) {
+    public boolean detected(int space) throws IllegalArgumentException, IllegalStateException {
         mustBeUp();
         mustBeIn(space, 0, plan.count - 1);
         return climate.isDetected(plan, space);
     }
 
-    public int alarms() {
+    public int alarms() throws IllegalStateException {
         mustBeUp();
         return watch.noted;
     }
 
-    public int alarm(int k, int what) {
+    public int alarm(int k, int what) throws IllegalArgumentException, IllegalStateException {
         mustBeUp();
         mustBeIn(k, 0, Math.min(watch.noted, Watch.NOTES) - 1);
         mustBeIn(what, 0, 1);
@@ -481,7 +482,7 @@ public final class KeptHouse {
 
     // ---- doors and cards
 
-    public int door(int storey, int e) {
+    public int door(int storey, int e) throws IllegalArgumentException, IllegalStateException {
         mustBeUp();
         mustBeIn(storey, 0, STOREYS - 1);
         mustBeIn(e, 0, EDGES - 1);
@@ -494,7 +495,8 @@ public final class KeptHouse {
         return keep(13, number, number);
     }
 
-    public int card(int card, int rights, int from, int to, boolean blocked) {
+    public int card(int card, int rights, int from, int to, boolean blocked)
+            throws IllegalArgumentException, IllegalStateException {
         mustBeUp();
         mustBeIn(card, 0, Access.CARDS - 1);
         mustBeIn(rights, 0, Access.ALL_RIGHTS);
@@ -504,7 +506,7 @@ public final class KeptHouse {
         return keep(14, card, 0);
     }
 
-    public int go(int card, int door) {
+    public int go(int card, int door) throws IllegalArgumentException, IllegalStateException {
         mustBeUp();
         mustHold(access.isCard(card));
         mustHold(access.isDoor(door));
@@ -516,19 +518,19 @@ public final class KeptHouse {
         return answer;
     }
 
-    public int place(int card) {
+    public int place(int card) throws IllegalArgumentException, IllegalStateException {
         mustBeUp();
         mustHold(access.isCard(card));
         return access.where[card];
     }
 
-    public int inside(int space) {
+    public int inside(int space) throws IllegalArgumentException, IllegalStateException {
         mustBeUp();
         mustBeIn(space, 0, plan.count - 1);
         return access.countIn(plan, space);
     }
 
-    public int log(int k, int what) {
+    public int log(int k, int what) throws IllegalArgumentException, IllegalStateException {
         mustBeUp();
         mustBeIn(k, 0, Math.min(access.logged, Access.LOG_ROWS) - 1);
         mustBeIn(what, 0, 3);
@@ -537,7 +539,7 @@ public final class KeptHouse {
 
     // ---- trends
 
-    public int point(int k, int kind, int index) {
+    public int point(int k, int kind, int index) throws IllegalArgumentException, IllegalStateException {
         mustBeUp();
         mustBeIn(k, 0, Watch.POINTS - 1);
         mustHold(Watch.isPoint(kind, index));
@@ -545,7 +547,7 @@ public final class KeptHouse {
         return keep(15, k, 0);
     }
 
-    public long trend(int k, int i) {
+    public long trend(int k, int i) throws IllegalArgumentException, IllegalStateException {
         mustBeUp();
         mustBeIn(k, 0, Watch.POINTS - 1);
         mustBeIn(i, 0, Math.min(watch.taken[k], Watch.VALUES) - 1);
@@ -554,7 +556,7 @@ public final class KeptHouse {
 
     // ---- care
 
-    public int ticket(int storey, int cell) {
+    public int ticket(int storey, int cell) throws IllegalArgumentException, IllegalStateException {
         mustBeUp();
         mustBeIn(storey, 0, STOREYS - 1);
         mustBeIn(cell, 0, CELLS - 1);
@@ -566,12 +568,12 @@ public final class KeptHouse {
         return keep(12, at, care.tickets[Care.NUMBER][at]);
     }
 
-    public int tickets() {
+    public int tickets() throws IllegalStateException {
         mustBeUp();
         return care.countTickets();
     }
 
-    public int ticketOf(int k, int what) {
+    public int ticketOf(int k, int what) throws IllegalArgumentException, IllegalStateException {
         mustBeUp();
         mustBeIn(k, 0, care.countTickets() - 1);
         mustBeIn(what, 0, Care.HOLDER);
@@ -579,21 +581,21 @@ public final class KeptHouse {
         return at == NONE ? NONE : care.tickets[what][at];
     }
 
-    public int tour(int worker) {
+    public int tour(int worker) throws IllegalArgumentException, IllegalStateException {
         mustBeUp();
         mustBeIn(worker, 0, Care.WORKERS - 1);
         mustAllow(care.visits[worker] == 0);
         return care.sendOut(worker, books.time);
     }
 
-    public int worker(int worker, int what) {
+    public int worker(int worker, int what) throws IllegalArgumentException, IllegalStateException {
         mustBeUp();
         mustBeIn(worker, 0, Care.WORKERS - 1);
         mustBeIn(what, 0, 3);
         return care.tellWorker(worker, what);
     }
 
-    public int order(int part, int n) {
+    public int order(int part, int n) throws IllegalArgumentException, IllegalStateException {
         mustBeUp();
         mustBeIn(part, 0, PARTS - 1);
         mustBeIn(n, 1, 9);
@@ -603,7 +605,7 @@ public final class KeptHouse {
         return care.addOrder(part, n, books.time + Care.DELIVERY);
     }
 
-    public int part(int part, int what) {
+    public int part(int part, int what) throws IllegalArgumentException, IllegalStateException {
         mustBeUp();
         mustBeIn(part, 0, PARTS - 1);
         mustBeIn(what, 0, Care.FAILED);
@@ -612,21 +614,21 @@ public final class KeptHouse {
 
     // ---- money
 
-    public int meter(int flat, int what) {
+    public int meter(int flat, int what) throws IllegalArgumentException, IllegalStateException {
         mustBeUp();
         mustBeIn(flat, 0, HOUSE);
         mustBeIn(what, 0, WATER);
         return books.meters[what][flat];
     }
 
-    public long account(int flat, int what) {
+    public long account(int flat, int what) throws IllegalArgumentException, IllegalStateException {
         mustBeUp();
         mustBeIn(flat, 0, FLATS - 1);
         mustBeIn(what, 0, 1);
         return what == 0 ? books.balance[flat] : books.bill[flat];
     }
 
-    public long money(int what) {
+    public long money(int what) throws IllegalArgumentException, IllegalStateException {
         mustBeUp();
         mustBeIn(what, 0, 3);
         switch (what) {
@@ -641,7 +643,7 @@ public final class KeptHouse {
         }
     }
 
-    public int pay(int flat, int cents) {
+    public int pay(int flat, int cents) throws IllegalArgumentException, IllegalStateException {
         mustBeUp();
         mustBeIn(flat, 0, FLATS - 1);
         mustBeIn(cents, 1, 100000000);
@@ -655,7 +657,7 @@ public final class KeptHouse {
 
     // ---- the store
 
-    public void crash(int n) {
+    public void crash(int n) throws IllegalArgumentException, IllegalStateException {
         mustBeUp();
         mustBeIn(n, NONE, 1000);
         store.wholeRows = n;
@@ -671,7 +673,7 @@ public final class KeptHouse {
         return store.down;
     }
 
-    public int rows(int what) {
+    public int rows(int what) throws IllegalArgumentException, IllegalStateException {
         mustBeUp();
         mustBeIn(what, 0, 3);
         switch (what) {
@@ -686,7 +688,7 @@ public final class KeptHouse {
         }
     }
 
-    public int disk(int area, int row, int i) {
+    public int disk(int area, int row, int i) throws IllegalArgumentException, IllegalStateException {
         mustBeUp();
         mustBeIn(area, 0, 1);
         mustBeIn(row, 0, Store.ROWS - 1);
@@ -696,19 +698,19 @@ public final class KeptHouse {
 
     // ---- the tape
 
-    public int image() {
+    public int image() throws IllegalStateException {
         mustBeUp();
         keeper.makeTape();
         return keeper.tapeLength;
     }
 
-    public int tape(int i) {
+    public int tape(int i) throws IllegalArgumentException, IllegalStateException {
         mustBeUp();
         mustBeIn(i, 0, keeper.tapeLength - 1);
         return keeper.tape[i];
     }
 
-    public int feed(int b) {
+    public int feed(int b) throws IllegalArgumentException, IllegalStateException {
         mustBeUp();
         mustBeIn(b, 0, 255);
         mustAllow(keeper.reelLength < Keeper.REEL_BYTES);
@@ -717,13 +719,13 @@ public final class KeptHouse {
         return keeper.reelLength;
     }
 
-    public int copy() {
+    public int copy() throws IllegalStateException {
         mustBeUp();
         keeper.copyTape();
         return keeper.reelLength;
     }
 
-    public int poke(int i, int b) {
+    public int poke(int i, int b) throws IllegalArgumentException, IllegalStateException {
         mustBeUp();
         mustBeIn(i, 0, keeper.reelLength - 1);
         mustBeIn(b, 0, 255);
@@ -732,14 +734,14 @@ public final class KeptHouse {
         return before;
     }
 
-    public int empty() {
+    public int empty() throws IllegalStateException {
         mustBeUp();
         int had = keeper.reelLength;
         keeper.reelLength = 0;
         return had;
     }
 
-    public int put() {
+    public int put() throws IllegalStateException {
         mustBeUp();
         int fault = keeper.judgeReel();
         if (fault != 0) {
