@@ -16,6 +16,12 @@ final class Image {
         return this;
     }
 
+    /** The keys of another image behind these. */
+    Image with(Image other) {
+        keys.addAll(other.keys);
+        return this;
+    }
+
     int[] bytes() {
         int[] all = new int[6 + 30 * keys.size()];
         all[0] = keys.size() % 256;
