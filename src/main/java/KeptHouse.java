@@ -989,7 +989,7 @@ public final class KeptHouse {
         final int[][] facts = new int[FACTS][MOST_SPACES];
         final int[] cells = new int[ALL_CELLS];
         final int[] weights = new int[MOST_SPACES * MOST_SPACES];
-        final int[][] pairs = new int[3][MOST_SPACES * MOST_SPACES];
+        final int[][] pairs = new int[3][MOST_SPACES * (MOST_SPACES - 1) / 2];
         int pairCount;
         final int[] damp = new int[ALL_CELLS];
         final int[] flats = new int[ALL_CELLS];
@@ -1042,8 +1042,16 @@ public final class KeptHouse {
         }
 
         static int neighbour(int cell, int side) {
-            int e = edgeAt(cell, side);
-            return side % 2 == 0 ? cellBefore(e) : cellBehind(e);
+            switch (side) {
+                case 0:
+                    return cell % 8 == 0 ? NONE : cell - 1;
+                case 1:
+                    return cell % 8 == 7 ? NONE : cell + 1;
+                case 2:
+                    return cell < 8 ? NONE : cell - 8;
+                default:
+                    return cell + 8 < CELLS ? cell + 8 : NONE;
+            }
         }
 
         static int firstKind(int e) {
@@ -1370,6 +1378,7 @@ public final class KeptHouse {
     private static final class Reader {
         static final int MOST_STATEMENTS = 12;
         static final int DEEPEST = 10;
+        static final int MOST_DIGITS = 6;
 
         /** Tokens that are no sign; a sign is its own code. */
         static final int END = 0;
@@ -1382,8 +1391,19 @@ public final class KeptHouse {
         static final int STORE = 2;
         static final int NEGATE = 3;
 
+        /** What must come next. */
+        static final int TARGET = 0;
+        static final int EQUALS = 1;
+        static final int OPERAND = 2;
+        static final int OPERATOR = 3;
+
+        /** How firmly signs between two operands bind; those that only open something bind nothing. */
+        static final int COMPARES = 1;
+        static final int ADDS = 2;
+        static final int MULTIPLIES = 3;
+
         static final String SIGNS = "=;()+-*<>?:";
-        static final String LONE_NAMES = "lbpvrx";
+        static final String LONE_TARGETS = "lbpvrx";
         static final String LONE_FACTS = "fohtkem";
 
         final int[] text = new int[Program.LONGEST];
@@ -1398,6 +1418,13 @@ public final class KeptHouse {
         int start;
         int token;
         int value;
+        int due;
+        int goal;
+        /** The signs that wait for what is behind them: ? becomes : when its second expression begins. */
+        final int[] waiting = new int[Program.LONGEST];
+        int waitCount;
+        /** How many ( and - of a factor and ? stand round the next token. */
+        int depth;
 
         /** Answers whether the text is a program. */
         boolean read(int[] source, int n) {
@@ -1408,9 +1435,22 @@ public final class KeptHouse {
             fault = 0;
             faultPlace = 0;
             next = 0;
+            due = TARGET;
+            waitCount = 0;
+            depth = 0;
             boolean good = advance();
-            for (int i = 0; i < Program.LONGEST && good && token != END; i++) {
-                good = readStatement();
+            // Each token has a character at least, and the end is one more.
+            for (int i = 0; i <= Program.LONGEST && good && (token != END || due != TARGET); i++) {
+                if (due == TARGET) {
+                    good = readTarget();
+                } else if (due == EQUALS) {
+                    good = readEquals();
+                } else if (due == OPERAND) {
+                    good = readOperand();
+                } else {
+                    good = readOperator();
+                }
+                good = good && advance();
             }
             return good;
         }
@@ -1459,12 +1499,12 @@ public final class KeptHouse {
             token = NUMBER;
             value = 0;
             while (next < length && isDigit(text[next])) {
-                if (next - start < 6) {
+                if (next - start < MOST_DIGITS) {
                     value = value * 10 + text[next] - '0';
                 }
                 next++;
             }
-            return next - start <= 6 || fail(4);
+            return next - start <= MOST_DIGITS || fail(4);
         }
 
         private void scanWord() {
@@ -1481,7 +1521,7 @@ public final class KeptHouse {
         }
 
         private static int loneName(char c) {
-            int target = LONE_NAMES.indexOf(c);
+            int target = LONE_TARGETS.indexOf(c);
             if (target >= 0) {
                 return LAMPS + target;
             }
@@ -1504,20 +1544,15 @@ public final class KeptHouse {
             }
         }
 
-        private boolean addStep(int step, int operand) {
+        private void addStep(int step, int operand) {
             if (stepCount < Program.LONGEST) {
                 steps[stepCount] = step;
                 operands[stepCount] = operand;
                 stepCount++;
             }
-            return true;
         }
 
-        private boolean accept(int sign) {
-            return token == sign ? advance() : fail(2);
-        }
-
-        private boolean readStatement() {
+        private boolean readTarget() {
             if (statements >= MOST_STATEMENTS) {
                 return fail(6);
             }
@@ -1527,70 +1562,126 @@ public final class KeptHouse {
             if (value == NONE || value >= TARGETS) {
                 return fail(3);
             }
-            int goal = value;
+            goal = value;
             statements++;
-            return advance() && accept('=') && readExpression(0) && addStep(STORE, goal) && accept(';');
+            due = EQUALS;
+            return true;
         }
 
-        private boolean readExpression(int depth) {
-            if (!readComparison(depth)) {
-                return false;
+        private boolean readEquals() {
+            due = OPERAND;
+            return token == '=' || fail(2);
+        }
+
+        private boolean readOperand() {
+            if (token == WORD && value == NONE) {
+                return fail(3);
             }
-            if (token != '?') {
+            if (token == NUMBER || token == WORD) {
+                addStep(token == NUMBER ? PUSH : NAME, value);
+                endFactor();
                 return true;
-            }
-            if (depth >= DEEPEST) {
-                return fail(5);
-            }
-            return advance() && readExpression(depth + 1) && accept(':') && readExpression(depth + 1)
-                    && addStep('?', 0);
-        }
-
-        private boolean readComparison(int depth) {
-            if (!readSum(depth)) {
-                return false;
-            }
-            if (token != '<' && token != '>') {
-                return true;
-            }
-            int sign = token;
-            return advance() && readSum(depth) && addStep(sign, 0);
-        }
-
-        private boolean readSum(int depth) {
-            boolean good = readProduct(depth);
-            for (int i = 0; i < Program.LONGEST && good && (token == '+' || token == '-'); i++) {
-                int sign = token;
-                good = advance() && readProduct(depth) && addStep(sign, 0);
-            }
-            return good;
-        }
-
-        private boolean readProduct(int depth) {
-            boolean good = readFactor(depth);
-            for (int i = 0; i < Program.LONGEST && good && token == '*'; i++) {
-                good = advance() && readFactor(depth) && addStep('*', 0);
-            }
-            return good;
-        }
-
-        private boolean readFactor(int depth) {
-            if (token == NUMBER) {
-                return addStep(PUSH, value) && advance();
-            }
-            if (token == WORD) {
-                return value == NONE ? fail(3) : addStep(NAME, value) && advance();
             }
             if (token != '-' && token != '(') {
                 return fail(2);
             }
+            return open(token == '-' ? NEGATE : '(');
+        }
+
+        /** Opens a ( or a - of a factor or a ?: all three count for the depth. */
+        private boolean open(int sign) {
             if (depth >= DEEPEST) {
                 return fail(5);
             }
-            if (token == '-') {
-                return advance() && readFactor(depth + 1) && addStep(NEGATE, 0);
+            depth++;
+            await(sign);
+            return true;
+        }
+
+        private void await(int sign) {
+            if (waitCount < Program.LONGEST) {
+                waiting[waitCount] = sign;
+                waitCount++;
             }
-            return advance() && readExpression(depth + 1) && accept(')');
+            due = OPERAND;
+        }
+
+        private int latest() {
+            return waitCount > 0 ? waiting[waitCount - 1] : NONE;
+        }
+
+        private void endFactor() {
+            for (; latest() == NEGATE; waitCount--) {
+                addStep(NEGATE, 0);
+                depth--;
+            }
+            due = OPERATOR;
+        }
+
+        private boolean readOperator() {
+            int firmness = firmnessOf(token);
+            if (firmness > COMPARES) {
+                reckonFrom(firmness);
+                await(token);
+                return true;
+            }
+            if (firmness == COMPARES) {
+                reckonFrom(ADDS);
+                if (firmnessOf(latest()) == COMPARES) {
+                    return fail(2);
+                }
+                await(token);
+                return true;
+            }
+            reckonFrom(COMPARES);
+            return token == '?' ? open('?') : endExpression();
+        }
+
+        private static int firmnessOf(int sign) {
+            switch (sign) {
+                case '*':
+                    return MULTIPLIES;
+                case '+':
+                case '-':
+                    return ADDS;
+                case '<':
+                case '>':
+                    return COMPARES;
+                default:
+                    return 0;
+            }
+        }
+
+        /** What binds at least so firmly has both its operands now. */
+        private void reckonFrom(int firmness) {
+            for (; waitCount > 0 && firmnessOf(latest()) >= firmness; waitCount--) {
+                addStep(latest(), 0);
+            }
+        }
+
+        /** A : or ) or ; ends each expression behind a : as well as its own. */
+        private boolean endExpression() {
+            for (; latest() == ':'; waitCount--) {
+                addStep('?', 0);
+                depth--;
+            }
+            if (token == ':' && latest() == '?') {
+                waiting[waitCount - 1] = ':';
+                due = OPERAND;
+                return true;
+            }
+            if (token == ')' && latest() == '(') {
+                waitCount--;
+                depth--;
+                endFactor();
+                return true;
+            }
+            if (token == ';' && waitCount == 0) {
+                addStep(STORE, goal);
+                due = TARGET;
+                return true;
+            }
+            return fail(2);
         }
     }
 
@@ -1611,6 +1702,7 @@ public final class KeptHouse {
         final int[] values = new int[NAMES];
         final int[] stack = new int[LONGEST];
         final int[] found = new int[LONGEST];
+        int foundLength;
 
         void setFirst() {
             typedLength = 0;
@@ -1729,8 +1821,8 @@ public final class KeptHouse {
             }
         }
 
-        /** Whether the keys of kind 6, as they stand in rows, tell a program; absent ones are all 0. */
-        boolean readText(int[] rows, int first) {
+        /** Lays out the text that the keys of kind 6 tell, in rows (absent ones are all 0), if they do. */
+        boolean findText(int[] rows, int first) {
             int n = rows[first + LENGTH_KEY * ROW_BYTES];
             if (n > LONGEST || !Store.isBlank(rows, first + LENGTH_KEY * ROW_BYTES, 1)) {
                 return false;
@@ -1742,12 +1834,13 @@ public final class KeptHouse {
                 }
                 found[i] = c;
             }
-            return other.read(found, n);
+            foundLength = n;
+            return true;
         }
 
         /** The program that the keys tell is loaded. */
         void restore(int[] rows, int first) {
-            if (readText(rows, first)) {
+            if (findText(rows, first) && other.read(found, foundLength)) {
                 exchange();
             }
         }
@@ -3100,7 +3193,8 @@ public final class KeptHouse {
             wholeRows = NONE;
             generation = 1;
             used = 1;
-            writeHead(0, 1, 0);
+            compose(0, 0, true, 0, 1);
+            writeLine(0, 0);
         }
 
         static void write(int[] to, int at, int bytes, long v) {
@@ -3197,12 +3291,6 @@ public final class KeptHouse {
             return true;
         }
 
-        private boolean writeHead(int to, int age, int count) {
-            compose(0, 0, true, 0, age);
-            write(line, BYTES_AT, 4, count);
-            return writeLine(to, 0);
-        }
-
         private int ageOf(int where, int row) {
             return (int) read(disk[where], row * LINE + GENERATION_AT, 4);
         }
@@ -3223,7 +3311,9 @@ public final class KeptHouse {
                     }
                 }
             }
-            if (!writeHead(to, age, count)) {
+            compose(0, 0, true, 0, age);
+            write(line, BYTES_AT, 4, count);
+            if (!writeLine(to, 0)) {
                 return false;
             }
             area = to;
@@ -3232,11 +3322,12 @@ public final class KeptHouse {
             return true;
         }
 
+        boolean hasRoom() {
+            return used + groupCount <= ROWS;
+        }
+
         /** Writes the staged group; the snapshot before it has the keys as they were. */
         boolean append() {
-            if (used + groupCount > ROWS && !snapshot(keys, there)) {
-                return false;
-            }
             for (int i = 0; i < groupCount; i++) {
                 compose(kindOf(group[i]), indexOf(group[i]), i == groupCount - 1, used, generation);
                 System.arraycopy(staged, i * ROW_BYTES, line, BYTES_AT, ROW_BYTES);
@@ -3389,6 +3480,9 @@ public final class KeptHouse {
             for (int i = 0; i < store.groupCount; i++) {
                 int key = store.group[i];
                 encode(Store.kindOf(key), Store.indexOf(key), store.staged, i * ROW_BYTES);
+            }
+            if (!store.hasRoom() && !store.snapshot(store.keys, store.there)) {
+                return false;
             }
             return store.append();
         }
@@ -3601,7 +3695,8 @@ public final class KeptHouse {
                     return false;
                 }
             }
-            return hasFewSpaces() && areNumbersApart() && program.readText(fresh, TEXT_KEY * ROW_BYTES);
+            return hasFewSpaces() && areNumbersApart() && program.findText(fresh, TEXT_KEY * ROW_BYTES)
+                    && program.other.read(program.found, program.foundLength);
         }
 
         private boolean hasFewSpaces() {
