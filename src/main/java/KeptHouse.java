@@ -172,7 +172,7 @@ public final class KeptHouse {
     public int conflict(int desk, int k) throws IllegalArgumentException, IllegalStateException {
         mustBeUp();
         mustBeIn(desk, 0, DESKS - 1);
-        mustBeIn(k, 0, Integer.MAX_VALUE);
+        mustHold(k >= 0);
         int i = plan.findConflict(desk, k);
         return i == NONE ? NONE : 128 * (i / EDGES) + i % EDGES;
     }
@@ -180,7 +180,7 @@ public final class KeptHouse {
     public int settle(int desk, int k, boolean mine) throws IllegalArgumentException, IllegalStateException {
         mustBeUp();
         mustBeIn(desk, 0, DESKS - 1);
-        mustBeIn(k, 0, Integer.MAX_VALUE);
+        mustHold(k >= 0);
         int i = plan.findConflict(desk, k);
         if (i == NONE) {
             return NONE;
@@ -1611,7 +1611,7 @@ public final class KeptHouse {
         }
 
         private void endFactor() {
-            for (; latest() == NEGATE; waitCount--) {
+            for (; waitCount > 0 && latest() == NEGATE; waitCount--) {
                 addStep(NEGATE, 0);
                 depth--;
             }
@@ -1661,7 +1661,7 @@ public final class KeptHouse {
 
         /** A : or ) or ; ends each expression behind a : as well as its own. */
         private boolean endExpression() {
-            for (; latest() == ':'; waitCount--) {
+            for (; waitCount > 0 && latest() == ':'; waitCount--) {
                 addStep('?', 0);
                 depth--;
             }
