@@ -35,6 +35,13 @@ public final class FineTest {
         shares();
         ticketNumbersSideBySide();
         smallImages();
+        sunOfAllHours();
+        circuitZero();
+        engineRests();
+        mouldOfCellZero();
+        coldAnew();
+        shorterProgram();
+        greatestRest();
         Check.end();
     }
 
@@ -671,5 +678,151 @@ public final class FineTest {
         Check.due("the shortest life", x.put(), 0);
         new Image().key(11, 0, Image.numbers(4, 1, 0, -1, 0)).feed(x);
         Check.due("a stock below 0", x.put(), 4);
+    }
+
+    private static void sunOfAllHours() {
+        KeptHouse x = new KeptHouse(0L);
+        for (int side = 0; side < 4; side++) {
+            for (int hour = 0; hour < 24; hour++) {
+                Check.due("none before", x.sun(side, hour, 40 * side + hour), 0);
+            }
+        }
+        x.reopen();
+        for (int side = 0; side < 4; side++) {
+            for (int hour = 0; hour < 24; hour++) {
+                Check.due("sun of " + side + ", " + hour, x.sun(side, hour, 0), 40 * side + hour);
+            }
+        }
+        KeptHouse y = new KeptHouse(0L);
+        y.edit(0, 0, 0, 1, 1, GLASS);
+        y.merge(0);
+        Told.weather(y, 180);
+        y.sun(0, 2, 100);
+        y.run(20);
+        Check.due("not before hour 2", y.cell(0, 0, 0), 18000);
+        y.run(10);
+        // 10 a minute; the warmth stays below 181, so that nothing goes.
+        Check.due("100 in hour 2", y.cell(0, 3, 0), 18003);
+        y.run(10);
+        Check.due("no more behind it", y.cell(0, 4, 0), 18002);
+    }
+
+    /** Alarms 12 and 14 of circuit 0 alone, and its rating in an image. */
+    private static void circuitZero() {
+        KeptHouse x = new KeptHouse(0L);
+        x.flat(0, 0, 0);
+        x.people(0, 0, 20);
+        x.rate(0, 1, 9);
+        x.run(1);
+        Check.due("tripped", x.alarms(), 1);
+        Check.due("its kind", x.alarm(0, 0), 12);
+        x.rate(0, 500, 9);
+        x.reset(0);
+        x.mains(false);
+        x.run(2);
+        Check.due("not shed yet", x.alarms(), 1);
+        x.run(1);
+        Check.due("shed", x.circuit(0, 3), 1);
+        Check.due("the house is not", x.circuit(10, 3), 0);
+        Check.due("its kind", x.alarm(0, 0), 14);
+        long[] ratings = {0, 1, 1, 1, 1, 1, 1, 1, 1, 1, 1};
+        new Image().key(7, 0, Image.numbers(2, ratings)).feed(x);
+        Check.due("a rating of 0", x.put(), 4);
+    }
+
+    private static void engineRests() {
+        KeptHouse x = new KeptHouse(0L);
+        x.mains(false);
+        x.run(3);
+        Check.due("gave", x.state(9), 1);
+        x.mains(true);
+        x.run(1);
+        Check.due("rests", x.state(9), 0);
+        Check.due("no wear", x.part(2, 1), 1);
+        x.mains(false);
+        x.run(2);
+        Check.due("two minutes without", x.state(9), 0);
+        x.run(1);
+        Check.due("gives again", x.state(9), 1);
+    }
+
+    private static void mouldOfCellZero() {
+        KeptHouse x = new KeptHouse(1L);
+        Told.room(x, 0, 0);
+        x.flat(0, 0, 0);
+        x.people(0, 0, 20);
+        Told.weather(x, -400);
+        Told.program(x, "v=0;b=0;l=0;s0=50;");
+        for (int i = 0; i < 200 && x.cell(0, 0, 3) < 1; i++) {
+            x.run(10);
+        }
+        for (int i = 0; i < 600 && x.cell(0, 0, 3) < 500; i++) {
+            x.run(1);
+            if (x.cell(0, 0, 3) < 500 && x.alarms() > 0) {
+                Check.due("no mould alarm yet", x.alarm(0, 0) != 17, true);
+            }
+        }
+        Check.due("500", x.cell(0, 0, 3), 500);
+        Check.due("noted", x.alarm(0, 0), 17);
+        Check.due("its time", x.alarm(0, 1), x.state(10) - 1);
+    }
+
+    /** Flat 0 is cold, and again when the house began anew: noted again. */
+    private static void coldAnew() {
+        KeptHouse x = new KeptHouse(0L);
+        x.flat(0, 0, 0);
+        Told.program(x, "s0=300;b=0;");
+        x.run(30);
+        Check.due("noted", x.alarms(), 1);
+        x.run(5);
+        x.reopen();
+        x.run(29);
+        Check.due("counted anew", x.alarms(), 0);
+        x.run(1);
+        Check.due("noted anew", x.alarms(), 1);
+        Check.due("its kind", x.alarm(0, 0), 0);
+    }
+
+    /** No character of an earlier, longer program comes into the rows of a shorter one. */
+    private static void shorterProgram() {
+        KeptHouse x = new KeptHouse(0L);
+        Told.program(x, "s0=100+1+1+1+1+1+1+1+1+1+1+1;s1=77;");
+        Told.program(x, "s0=90;");
+        Told.program(x, "s0=91;");
+        int row = x.rows(2) - 8;
+        for (int i = 6; i < 56; i++) {
+            Check.due("character " + i, x.disk(0, row + i / 28, 12 + i % 28), 0);
+        }
+        x.image();
+        x.copy();
+        Check.due("the image can be put in", x.put(), 0);
+        x.run(1);
+        Check.due("s0", x.target(0), 91);
+        Check.due("s1", x.target(1), 200);
+        int[] ticket = Image.join(new int[] {1, 3, 22, 2}, Image.numbers(4, 777, 12));
+        new Image().key(12, 6, ticket).feed(x);
+        Check.due("a ticket", x.put(), 0);
+        long[] want = {12, 3, 22, 2, 777, KeptHouse.NONE};
+        for (int what = 0; what < 6; what++) {
+            Check.due("ticket what " + what, x.ticketOf(0, what), want[what]);
+        }
+    }
+
+    /** Water of 10 in 5, 1, 1: 7 rest 1, 1 rest 3, 1 rest 3; the one left goes to the second. */
+    private static void greatestRest() {
+        KeptHouse x = new KeptHouse(0L);
+        Image image = new Image();
+        int[] water = {5, 1, 1};
+        for (int flat = 0; flat < 3; flat++) {
+            image.key(8, flat, Image.join(new int[24], Image.numbers(4, water[flat])));
+        }
+        image.key(9, 0, Image.numbers(4, 2399));
+        image.key(10, 0, Image.numbers(4, 0, 0, 0, 0, 0, 143));
+        image.feed(x);
+        Check.due("put", x.put(), 0);
+        x.run(1);
+        Check.due("bill 0", x.account(0, 1), 7);
+        Check.due("bill 1", x.account(1, 1), 2);
+        Check.due("bill 2", x.account(2, 1), 1);
     }
 }
