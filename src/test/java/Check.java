@@ -32,6 +32,11 @@ final class Check {
         thrown(what, call, IllegalStateException.class);
     }
 
+    /** A call that must not throw, whatever it answers. */
+    static void taken(String what, Call call) {
+        thrown(what, call, null);
+    }
+
     private static void thrown(String what, Call call, Class<?> want) {
         Class<?> got = null;
         try {

@@ -4,10 +4,7 @@ final class Told {
     }
 
     static void program(KeptHouse x, String text) {
-        x.wipe();
-        for (int i = 0; i < text.length(); i++) {
-            x.type(text.charAt(i));
-        }
+        text(x, text);
         Check.due("load of " + text, x.load() >= 0, true);
     }
 
@@ -21,6 +18,29 @@ final class Told {
         for (int hour = 0; hour < 24; hour++) {
             x.weather(hour, v);
         }
+    }
+
+    static void runTo(KeptHouse x, int time) {
+        while (x.state(10) < time) {
+            x.run(Math.min(120, time - x.state(10)));
+        }
+    }
+
+    /** The text is typed into an empty one, and not loaded. */
+    static void text(KeptHouse x, String text) {
+        x.wipe();
+        for (int i = 0; i < text.length(); i++) {
+            x.type(text.charAt(i));
+        }
+    }
+
+    /** What all cells of a storey have together. */
+    static long sum(KeptHouse x, int storey, int what) {
+        long sum = 0;
+        for (int cell = 0; cell < 48; cell++) {
+            sum += x.cell(storey, cell, what);
+        }
+        return sum;
     }
 
     /** Cuts the cell out of its storey by LIGHT walls (those at the border stay as they are). */
