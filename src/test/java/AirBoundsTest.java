@@ -17,6 +17,8 @@ public final class AirBoundsTest {
         mouldAtMost();
         mouldAtLeast();
         othersKeepTheirs();
+        minuteByMinute();
+        anew();
         Check.end();
     }
 
@@ -271,5 +273,41 @@ public final class AirBoundsTest {
         x.run(1);
         Check.due("HEAVY again, and dry", x.cell(4, 0, MOULD), 3);
         Check.due("a cell within never has any", x.cell(4, 9, MOULD), 0);
+    }
+
+    /** STALE of a room with two edges of glass, minute by minute, with people and vents that change. */
+    private static void minuteByMinute() {
+        KeptHouse x = room(0, 0);
+        x.take(0);
+        x.edit(0, 0, 0, 2, 54, 3);
+        x.merge(0);
+        x.rate(0, 500, 0);
+        long stale = 0;
+        for (int t = 0; t < 60; t++) {
+            int people = 7 * t % 21;
+            if (t % 10 == 0) {
+                Told.program(x, "b=0;l=0;v=" + t / 10 + ";");
+            }
+            x.people(0, t / 10, people);
+            stale += 20 * people;
+            stale -= stale * (4 + 10 * (t / 10)) / 1000;
+            x.run(1);
+            Check.due("stale at " + t, x.cell(0, 0, STALE), stale);
+        }
+    }
+
+    /** "All that is not durable is as at first": STALE, MOIST and MOULD are 0. */
+    private static void anew() {
+        KeptHouse x = damp(new int[] {20, 20, 20, 20}, new boolean[] {true, true, true, true}, 1);
+        for (int i = 0; i < 100 && x.cell(4, 0, MOULD) < 3; i++) {
+            x.run(1);
+        }
+        Check.due("stale", x.cell(4, 0, STALE) > 0, true);
+        Check.due("moist", x.cell(4, 0, MOIST) > 300, true);
+        x.reopen();
+        Check.due("heat anew", x.cell(4, 0, 0), 18000);
+        Check.due("stale anew", x.cell(4, 0, STALE), 0);
+        Check.due("moist anew", x.cell(4, 0, MOIST), 0);
+        Check.due("mould anew", x.cell(4, 0, MOULD), 0);
     }
 }

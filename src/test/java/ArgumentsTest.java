@@ -91,7 +91,12 @@ public final class ArgumentsTest {
         Check.due("109 alone, whatever the step", x.edit(1, 0, 109, 1, 110, 3), 0);
         Check.illegalArgument("109 and 110", () -> x.edit(1, 0, 109, 2, 1, 3));
         Check.illegalArgument("110 of step 110", () -> x.edit(1, 0, 0, 110, 110, 3));
+        Check.illegalArgument("-1 and 0", () -> x.edit(1, 1, -1, 2, 1, 3));
+        Check.illegalArgument("-110 and 0", () -> x.edit(1, 1, -110, 2, 110, 3));
+        Check.illegalArgument("none from 5 on", () -> x.edit(1, 0, 5, 0, 1, 3));
+        Check.illegalArgument("-1 of them from 5 on", () -> x.edit(1, 0, 5, -1, 1, 3));
         Check.due("none of them was drawn", x.draft(1, 0, 1), 0);
+        Check.due("nor in the storey below", x.draft(1, 0, 109), 3);
     }
 
     private static void merge() {

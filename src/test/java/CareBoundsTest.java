@@ -34,6 +34,8 @@ public final class CareBoundsTest {
         cutVisit();
         cutOrder();
         cutFailure();
+        ordersBeforeVisits();
+        wearAnew();
         Check.end();
     }
 
@@ -585,5 +587,50 @@ public final class CareBoundsTest {
             Check.due("failed with " + n, x.part(1, 3), n < 2 ? 0 : 1);
             Check.due("tickets with " + n, x.tickets(), n < 2 ? 0 : 1);
         }
+    }
+
+    /** Of one minute: first what was ordered comes, then the visits are over. */
+    private static void ordersBeforeVisits() {
+        KeptHouse x = new KeptHouse(0L);
+        x.order(1, 1);
+        Told.runTo(x, 465);
+        x.ticket(0, 0);
+        x.tour(0);
+        Told.runTo(x, 480);
+        int row = x.rows(2);
+        x.run(1);
+        int[] kinds = {9, 11, 9, 12};
+        int[] care = {3000, 0, 3500, 0};
+        Check.due("four rows", x.rows(2), row + 4);
+        for (int i = 0; i < 4; i++) {
+            Check.due("kind of row " + i, x.disk(0, row + i, 0), kinds[i]);
+            if (kinds[i] == 9) {
+                Check.due("care of row " + i, x.disk(0, row + i, 36) + 256 * x.disk(0, row + i, 37), care[i]);
+            }
+        }
+    }
+
+    /** WEAR that no row has told is 0 when the house begins anew; what an image does not tell is as at first. */
+    private static void wearAnew() {
+        KeptHouse x = new KeptHouse(0L);
+        x.flat(0, 0, 0);
+        x.run(3);
+        Check.due("three", x.part(0, 1), 3);
+        x.reopen();
+        Check.due("none", x.part(0, 1), 0);
+        KeptHouse y = of(new Image().key(11, 1, part(7, 6, 5, 1)).key(12, 2, ticket(0, 0, 3, 0, 9)));
+        y.order(0, 1);
+        y.tour(0);
+        new Image().feed(y);
+        Check.due("put", y.put(), 0);
+        int[] first = {5000, 0, 0, 0};
+        for (int what = 0; what < 4; what++) {
+            Check.due("as at first, " + what, y.part(1, what), first[what]);
+        }
+        Check.due("no ticket", y.tickets(), 0);
+        Check.due("numbers from 0 on", y.ticket(0, 0), 0);
+        Check.due("the worker is free", y.tour(0), 1);
+        Told.runTo(y, 481);
+        Check.due("the order is forgotten", y.part(0, 2), 0);
     }
 }

@@ -21,6 +21,8 @@ public final class FireBoundsTest {
         sprinklersNeedX();
         sprinklersNeedTen();
         spaceBySpace();
+        wantedInTheNextMinute();
+        anew();
         Check.end();
     }
 
@@ -341,5 +343,40 @@ public final class FireBoundsTest {
             boolean first = cell < 9 && cell != 3;
             Check.due("cell " + cell, x.cell(1, cell, FLAME), first ? 0 : 20);
         }
+    }
+
+    /** The pump is WANTED by what the TANK has in step 4 alone: not when sprinklers empty it. */
+    private static void wantedInTheNextMinute() {
+        KeptHouse x = new KeptHouse(0L);
+        Told.program(x, "b=0;v=0;x=0;");
+        for (int cell = 0; cell < 48; cell++) {
+            x.ignite(1, cell);
+        }
+        x.run(9);
+        Told.program(x, "b=0;v=0;");
+        x.run(4);
+        Check.due("80 are left, 560 were there before the fire", x.state(TANK), 80);
+        Check.due("not wanted", x.state(4), 0);
+        Check.due("it did not run", x.state(8), 0);
+        x.run(1);
+        Check.due("wanted in the next minute", x.state(4), 1);
+        Check.due("it ran", x.state(8), 1);
+        // 80 and 60 of the pump are enough for fourteen cells.
+        Check.due("out", x.cell(1, 13, FLAME), 0);
+        Check.due("not out", x.cell(1, 14, FLAME), 20);
+    }
+
+    /** Flames and smoke are as at first when the house begins anew. */
+    private static void anew() {
+        KeptHouse x = burning("b=0;v=0;x=0;");
+        x.run(3);
+        Check.due("smoke", x.cell(2, 9, SMOKE), 120);
+        x.reopen();
+        Check.due("no smoke", x.cell(2, 9, SMOKE), 0);
+        Check.due("no flame", x.cell(2, 9, FLAME), 0);
+        Check.due("not detected", x.detected(x.spaceAt(2, 9)), false);
+        x.ignite(2, 9);
+        x.run(1);
+        Check.due("smoke of one minute alone", x.cell(2, 9, SMOKE), 20);
     }
 }

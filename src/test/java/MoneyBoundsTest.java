@@ -22,6 +22,8 @@ public final class MoneyBoundsTest {
         latestBill();
         greatestSums();
         freeOfCharge();
+        greatestSumsAreKept();
+        moneyAnew();
         Check.end();
     }
 
@@ -351,5 +353,62 @@ public final class MoneyBoundsTest {
         bills("free", x);
         Check.due("cash", x.money(0), 0);
         Check.due("lost", x.money(1), 0);
+    }
+
+    /** Sums and meters at their ends are written and read again whole. */
+    private static void greatestSumsAreKept() {
+        KeptHouse x = new KeptHouse(0L);
+        new Image().key(8, 0, Image.join(Image.numbers(8, -RICH, -RICH), Image.numbers(4, MOST, MOST, MOST)))
+                .key(9, 0, Image.join(Image.numbers(4, 1000000), Image.numbers(8, -RICH, -RICH), Image.numbers(4, MOST, MOST)))
+                .key(10, 0, Image.numbers(4, MOST, MOST, 20000, 1000, 1000, 1000))
+                .key(11, 0, Image.join(Image.numbers(4, 100000, MOST, 99), new int[] {1})).feed(x);
+        Check.due("put", x.put(), 0);
+        x.pay(0, 1);
+        x.price(1, 999);
+        x.life(0, 99999);
+        x.reopen();
+        Check.due("balance", x.account(0, 0), -RICH + 1);
+        Check.due("bill", x.account(0, 1), -RICH);
+        for (int what = 0; what < 3; what++) {
+            Check.due("meter " + what, x.meter(0, what), MOST);
+        }
+        Check.due("the house's heat", x.meter(10, 0), MOST);
+        Check.due("the house's power", x.meter(10, 1), MOST);
+        Check.due("cash", x.money(0), -RICH + 1);
+        Check.due("lost", x.money(1), -RICH);
+        Check.due("gas", x.money(2), MOST);
+        Check.due("care", x.money(3), MOST);
+        Check.due("time", x.state(10), 1000000);
+        Check.due("cap", x.price(0, 0), 20000);
+        Check.due("price", x.price(1, 0), 999);
+        Check.due("life", x.part(0, 0), 99999);
+        Check.due("wear", x.part(0, 1), MOST);
+        Check.due("stock", x.part(0, 2), 99);
+        Check.due("failed", x.part(0, 3), 1);
+    }
+
+    /** What an image does not tell is as at first: accounts, money, meters, prices. */
+    private static void moneyAnew() {
+        Month month = new Month();
+        month.care = 480;
+        month.gas = 7;
+        month.prices[0] = 5;
+        KeptHouse x = month.house(0);
+        x.run(2);
+        x.pay(0, 9);
+        Check.due("a bill", x.account(0, 1), 480);
+        new Image().feed(x);
+        Check.due("put", x.put(), 0);
+        for (int flat = 0; flat < 10; flat++) {
+            Check.due("balance", x.account(flat, 0), 0);
+            Check.due("bill", x.account(flat, 1), 0);
+        }
+        for (int what = 0; what < 4; what++) {
+            Check.due("money " + what, x.money(what), 0);
+        }
+        Check.due("the house's power", x.meter(10, 1), 0);
+        Check.due("cap", x.price(0, 1), 5000);
+        Check.due("price", x.price(1, 1), 0);
+        Check.due("time", x.state(10), 0);
     }
 }

@@ -29,6 +29,9 @@ public final class ProgramBoundsTest {
         loadedAnew();
         rowsOfAProgram();
         loadIsCut();
+        oneBehindAnother();
+        staleByCells();
+        fireIsKnown();
         Check.end();
     }
 
@@ -500,5 +503,58 @@ public final class ProgramBoundsTest {
         x.reopen();
         x.run(1);
         Check.due("the new one", x.target(0), 88);
+    }
+
+    /** A program has the steps of its own text alone, whatever was loaded before it. */
+    private static void oneBehindAnother() {
+        KeptHouse x = new KeptHouse(0L);
+        for (int flat = 0; flat < 6; flat++) {
+            Told.program(x, "s" + flat + "=60;");
+            x.run(1);
+            for (int k = 0; k < 10; k++) {
+                Check.due("program " + flat + ", target " + k, x.target(k), k == flat ? 60 : 200);
+            }
+        }
+        Told.program(x, "");
+        x.run(1);
+        for (int k = 0; k < 10; k++) {
+            Check.due("no program, target " + k, x.target(k), 200);
+        }
+    }
+
+    /** c: "its STALE by its cells", rounded down: 40, 60, 80, 100 on 48 cells. */
+    private static void staleByCells() {
+        int[] due = {0, 1, 1, 2};
+        for (int i = 0; i < 4; i++) {
+            KeptHouse x = new KeptHouse(0L);
+            x.flat(0, 0, 0);
+            x.people(0, 0, 2 + i);
+            Told.program(x, "v=0;b=0;s1=c0+60;");
+            x.run(1);
+            Check.due("none as the first minute begins", x.target(1), 60);
+            Check.due("stale", Told.sum(x, 0, 1), 40 + 20 * i);
+            x.run(1);
+            Check.due("by 48", x.target(1), 60 + due[i]);
+        }
+    }
+
+    /** d and f: "1 if it is DETECTED, else 0", as the minute begins: 20 of smoke in a cell, then 60. */
+    private static void fireIsKnown() {
+        KeptHouse x = new KeptHouse(0L);
+        Told.room(x, 2, 9);
+        x.flat(2, 9, 4);
+        Told.program(x, "b=0;v=0;x=0;s0=d4+70;s1=f+70;s2=d3+70;");
+        x.ignite(2, 9);
+        int[] due = {70, 70, 71, 71};
+        for (int i = 0; i < 4; i++) {
+            x.run(1);
+            Check.due("d4 in the minute " + i, x.target(0), due[i]);
+            Check.due("f in the minute " + i, x.target(1), due[i]);
+            Check.due("d3 in the minute " + i, x.target(2), 70);
+        }
+        x.flat(2, 9, 15);
+        x.run(1);
+        Check.due("without a flat: d4", x.target(0), 70);
+        Check.due("but f", x.target(1), 71);
     }
 }

@@ -30,6 +30,7 @@ public final class StoreBoundsTest {
         oldGroupsLastRowBehind();
         groupsOfOneMinute();
         downOrNot();
+        cutWhenAreaOneIsInUse();
         Check.end();
     }
 
@@ -470,5 +471,25 @@ public final class StoreBoundsTest {
         x.reopen();
         Check.due("up again", x.isDown(), false);
         Check.illegalArgument("now its arguments", () -> x.flat(-1, -1, -1));
+    }
+
+    /** Area 1 is in use: a snapshot to area 0 that is cut at any row, its head with them, leaves area 1. */
+    private static void cutWhenAreaOneIsInUse() {
+        for (int n = 0; n <= 4; n++) {
+            KeptHouse x = new KeptHouse(0L);
+            new Image().key(3, 0, 1).feed(x);
+            x.put();
+            Check.due("area 1", x.rows(0), 1);
+            for (int i = x.rows(2); i < 200; i++) {
+                x.flat(0, 0, i % 10);
+            }
+            x.crash(n);
+            Check.due("with " + n, x.flat(0, 0, 7), n < 4 ? CUT : 9);
+            Check.due("rows with " + n, x.reopen(), n < 3 ? 199 : n == 3 ? 2 : 3);
+            Check.due("area with " + n, x.rows(0), n < 3 ? 1 : 0);
+            Check.due("generation with " + n, x.rows(1), n < 3 ? 2 : 3);
+            Check.due("flat with " + n, x.space(0, 3), n < 4 ? 9 : 7);
+            Check.due("people with " + n, x.people(0, 0, 2), 1);
+        }
     }
 }

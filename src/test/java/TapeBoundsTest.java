@@ -39,6 +39,9 @@ public final class TapeBoundsTest {
         newGenerations();
         cutAtEachRow();
         anew();
+        oneImageBehindAnother();
+        spacesOfTheImageAlone();
+        pointsOfTheImageAlone();
         Check.end();
     }
 
@@ -682,5 +685,62 @@ public final class TapeBoundsTest {
         Check.due("time", x.state(10), 0);
         Check.due("reel", x.empty(), 0);
         Check.illegalArgument("tape", () -> x.tape(0));
+    }
+
+    /** What an image does not tell is as at first, though the one before it told it: the program, all keys. */
+    private static void oneImageBehindAnother() {
+        KeptHouse x = new KeptHouse(0L);
+        one(3, 0, 5).key(6, 0, 's', '0', '=', '7', '7', ';').key(6, 7, 6).feed(x);
+        Check.due("put", x.put(), 0);
+        x.run(1);
+        Check.due("its program", x.target(0), 77);
+        one(3, 1, 6).feed(x);
+        Check.due("put again", x.put(), 0);
+        Check.due("no program", x.target(0), 200);
+        x.run(1);
+        Check.due("none at all", x.target(0), 200);
+        Check.due("nobody in flat 0", x.people(0, 0, 0), 0);
+        Check.due("some in flat 1", x.people(1, 0, 0), 6);
+        Check.due("keys", x.rows(3), 2);
+        // A length that is not there is 0, whatever an image before told.
+        one(6, 0, 's', '0', '=', '7', '7', ';').feed(x);
+        Check.due("characters without a length", x.put(), 4);
+        one(6, 7, 6).feed(x);
+        Check.due("a length without characters", x.put(), 4);
+        new Image().feed(x);
+        Check.due("nothing", x.put(), 0);
+    }
+
+    /** "With those storeys that are not there as at first", not as the plan has them. */
+    private static void spacesOfTheImageAlone() {
+        KeptHouse x = new KeptHouse(0L);
+        for (int storey = 1; storey < 5; storey++) {
+            for (int column = 1; column < 8; column++) {
+                x.edit(0, storey, column, 6, 9, 1);
+            }
+        }
+        x.merge(0);
+        Check.due("spaces", x.spaces(), 33);
+        one(1, 0, cells(35)).feed(x);
+        Check.due("40 of the image", x.put(), 0);
+        Check.due("spaces then", x.spaces(), 40);
+        one(1, 4, cells(35)).feed(x);
+        Check.due("40 in another storey", x.put(), 0);
+        Check.due("spaces at last", x.spaces(), 40);
+        Check.due("storey 0 is as at first", x.spaceAt(0, 47), 0);
+    }
+
+    private static void pointsOfTheImageAlone() {
+        KeptHouse x = new KeptHouse(0L);
+        x.point(2, 3, 0);
+        x.point(3, 3, 0);
+        x.run(20);
+        one(15, 3, 1, 5, 0).feed(x);
+        Check.due("put", x.put(), 0);
+        Check.illegalArgument("not told now", () -> x.trend(2, 0));
+        Check.illegalArgument("no value of this one", () -> x.trend(3, 0));
+        x.run(10);
+        Check.illegalArgument("still not told", () -> x.trend(2, 0));
+        Check.due("charge", x.trend(3, 0), 1800);
     }
 }
