@@ -54,17 +54,13 @@ public final class AccessBoundsTest {
     /** "The least number that none had when it was told": gaps of an image are filled first. */
     private static void leastNumbers() {
         KeptHouse x = new KeptHouse(0L);
-        Image image = new Image();
+        new Image().key(13, 1, 1, 0, 0).key(13, 3, 1, 0, 0).key(13, 18, 1, 0, 0).feed(x);
+        Check.due("put", x.put(), 0);
         for (int d = 0; d < 20; d++) {
-            if (d != 0 && d != 7 && d != 19) {
-                image.key(13, d, 1, 0, 0);
+            if (d != 1 && d != 3 && d != 18) {
+                Check.due("the next", x.door(0, 8), d);
             }
         }
-        image.feed(x);
-        Check.due("put", x.put(), 0);
-        Check.due("first", x.door(0, 8), 0);
-        Check.due("second", x.door(0, 8), 7);
-        Check.due("third", x.door(0, 8), 19);
         Check.due("full", x.door(0, 8), FULL);
     }
 

@@ -4,12 +4,10 @@ public final class AlarmsTest {
         none();
         coldFlat();
         coldFlatBeginsAnew();
-        dryAndCool();
         trippedAndShed();
         failed();
         stuffy();
         smoke();
-        mouldy();
         latestNotes();
         Check.end();
     }
@@ -83,27 +81,6 @@ public final class AlarmsTest {
         x.run(1);
         Check.due("counted for the flat, whichever its heart", x.alarms(), 1);
         latest(x, 0, 99);
-    }
-
-    private static void dryAndCool() {
-        KeptHouse x = new KeptHouse(3L);
-        for (int flat = 0; flat < 5; flat++) {
-            x.flat(flat, 0, flat);
-            Told.people(x, flat, 20);
-        }
-        Told.program(x, "b=0;p=0;");
-        int cool = 0;
-        for (int t = 0; t < 400; t++) {
-            x.run(1);
-            if (x.state(6) >= 240 && cool == 0) {
-                cool = t;
-                Check.due("cool is noted", count(x, 11), 1);
-            } else if (cool == 0) {
-                Check.due("cool is not noted", count(x, 11), 0);
-            }
-        }
-        Check.due("it came to that", cool > 0, true);
-        Check.due("dry", count(x, 10) > 0, true);
     }
 
     private static void trippedAndShed() {
@@ -180,27 +157,6 @@ public final class AlarmsTest {
         x.run(1);
         Check.due("detected", x.alarms(), 1);
         latest(x, 16, 1);
-    }
-
-    private static void mouldy() {
-        KeptHouse x = new KeptHouse(1L);
-        Told.room(x, 4, 7);
-        x.flat(4, 7, 0);
-        x.people(0, 0, 20);
-        Told.weather(x, -400);
-        Told.program(x, "v=0;b=0;l=0;");
-        int noted = -1;
-        for (int t = 0; t < 700; t++) {
-            x.run(1);
-            if (x.cell(4, 7, 3) >= 500 && noted < 0) {
-                noted = t;
-                Check.due("mould is noted", count(x, 17), 1);
-                latest(x, 17, t);
-            } else if (noted < 0) {
-                Check.due("mould is not noted", count(x, 17), 0);
-            }
-        }
-        Check.due("it came to that", noted > 0, true);
     }
 
     /** 40 notes, of which the latest 32 are kept. */

@@ -1,3 +1,5 @@
+import java.util.Arrays;
+
 /** What is durable is told back by its row, whole, when the house begins anew. */
 public final class KeptTest {
     public static void main(String[] args) {
@@ -133,13 +135,17 @@ public final class KeptTest {
     /** All meters and moneys of a day, in their bytes and back. */
     private static void dayKept() {
         KeptHouse x = new KeptHouse(99L);
+        Image image = new Image();
         for (int storey = 0; storey < 4; storey++) {
-            x.flat(storey, 0, storey);
-            Told.people(x, storey, 2 + storey);
-            x.rate(storey, 500, 0);
+            image.key(2, storey, flatOfCellZero(storey));
         }
-        new Image().with(image(x)).key(9, 0, Image.join(Image.numbers(4, 2395),
-                Image.numbers(8, 123456789012L, 98765432101L), Image.numbers(4, 12345, 54321))).feed(x);
+        for (int flat = 0; flat < 4; flat++) {
+            int[] people = new int[24];
+            Arrays.fill(people, 2 + flat);
+            image.key(3, flat, people);
+        }
+        image.key(9, 0, Image.join(Image.numbers(4, 2395), Image.numbers(8, 123456789012L, 98765432101L),
+                Image.numbers(4, 12345, 54321))).feed(x);
         Check.due("put", x.put(), 0);
         x.price(1, 77);
         x.run(5);
@@ -166,18 +172,11 @@ public final class KeptTest {
         Check.due("lost is there", x.money(1), 98765432101L);
     }
 
-    /** The keys of a house, as its own image has them. */
-    private static Image image(KeptHouse x) {
-        int n = x.image();
-        Image image = new Image();
-        for (int at = 2; at < n - 4; at += 30) {
-            int[] bytes = new int[28];
-            for (int i = 0; i < 28; i++) {
-                bytes[i] = x.tape(at + 2 + i);
-            }
-            image.key(x.tape(at), x.tape(at + 1), bytes);
-        }
-        return image;
+    private static int[] flatOfCellZero(int flat) {
+        int[] bytes = new int[24];
+        Arrays.fill(bytes, 0xFF);
+        bytes[0] = 0xF0 | flat;
+        return bytes;
     }
 
     private static long[][] all(KeptHouse x) {

@@ -175,16 +175,6 @@ public final class StoreTest {
         Check.due("area then", x.rows(0), 1);
         Check.due("flat", x.space(0, 3), 4);
         Check.due("ticket", x.tickets(), 1);
-        fill(x, 200);
-        x.flat(0, 0, 5);
-        Check.due("back in area 0", x.rows(0), 0);
-        Check.due("generation 3", x.rows(1), 3);
-        Check.due("old rows do not count", x.reopen(), 14);
-        Check.due("flat then", x.space(0, 3), 5);
-        // A group of two in the last row's place needs a snapshot as well.
-        fill(x, 199);
-        x.pay(0, 5);
-        Check.due("generation 4", x.rows(1), 4);
     }
 
     private static void snapshotIsCut() {
