@@ -9,6 +9,7 @@ public final class TimeBoundsTest {
         cutDay();
         lateTime();
         oneByOne();
+        lastTime();
         Check.end();
     }
 
@@ -145,5 +146,26 @@ public final class TimeBoundsTest {
         for (int what = 0; what < 6; what++) {
             Check.due("cell " + what, x.cell(1, 1, what), y.cell(1, 1, what));
         }
+    }
+
+    /**
+     * "Illegal state: also if the time would be more than 2000000." No 512 calls come so far, so that
+     * this house alone is used for more of them: the class keeps the sentence all the same.
+     */
+    private static void lastTime() {
+        KeptHouse x = new KeptHouse(0L);
+        new Image().key(9, 0, Image.numbers(4, 1000000)).feed(x);
+        x.put();
+        Told.runTo(x, 1999960);
+        Check.illegalState("41 are one too many", () -> x.run(41));
+        Check.illegalArgument("what is named first", () -> x.run(121));
+        Check.due("nothing was changed", x.state(10), 1999960);
+        Check.due("39", x.run(39), 1999999);
+        Check.illegalState("two are one too many", () -> x.run(2));
+        Check.due("one", x.run(1), 2000000);
+        Check.illegalState("no more", () -> x.run(1));
+        Check.due("the last time", x.state(10), 2000000);
+        Check.due("other calls go on", x.flat(0, 0, 1), 15);
+        Check.due("an order can be given", x.order(0, 1), 2000480);
     }
 }
