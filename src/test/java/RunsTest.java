@@ -8,8 +8,9 @@ import java.util.List;
 import java.util.TreeSet;
 
 /**
- * Long runs of mixed calls. The answers in src/test/runs were reckoned by a second program, written
- * from the document alone; so they tell where all parts of a minute work on one another.
+ * Long runs of mixed calls, which show how all parts of a minute work on one another. The answers in
+ * src/test/runs were reckoned by two other programs (one for run00 to run09, one for the rest), written
+ * from the document by the class's own author, who may have misread it in the same way each time.
  */
 public final class RunsTest {
     public static void main(String[] args) throws IOException, ReflectiveOperationException {
